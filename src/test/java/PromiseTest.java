@@ -402,6 +402,8 @@ public final class PromiseTest {
         }
         // 3 * 1 + 7 * 2 + 3 + 3 * 4 + 7 * 6 = 74
         due(-1, "15 a good check of no ticket", () -> x.whose(123466));
+        // 7919 * 13 + 12345 = 115292: 3 + 35 + 2 + 27 + 14 = 81
+        due(-1, "15 the next ticket, not yet sold", () -> x.whose(152929));
         due(-1, "15 seven digits", () -> x.whose(1123453));
         due(-1, "15 negative", () -> x.whose(-123453));
         due(-1, "15 nought", () -> x.whose(0));
@@ -490,6 +492,7 @@ public final class PromiseTest {
         due("59/0/7205", "18 the last of all", () -> doubleOf(x, 299));
         due(INDEX, "18 k 300", () -> x.twice(300, 0));
         due(60, "20 all", () -> x.inside(100000));
+        due(-1, "15 no ticket of all 60", () -> x.whose(123466));
     }
 
     private static void leavesAndInside() {
