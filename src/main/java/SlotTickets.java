@@ -450,7 +450,10 @@ public final class SlotTickets {
             }
         }
 
-        /** The sign of the difference of the two products tells it, without a row for either of them. */
+        /**
+         * The sign of the difference of the two products tells it, without a row for either of them. The carry is
+         * 0 or -1 in the end, since either product fits into the limbs.
+         */
         private boolean isAbove(int riskAbove, int riskBelow) {
             long carry = 0;
             boolean differs = false;
@@ -459,7 +462,7 @@ public final class SlotTickets {
                 carry = Math.floorDiv(limb, BASE);
                 differs = differs || Math.floorMod(limb, BASE) != 0;
             }
-            return carry > 0 || carry == 0 && differs;
+            return carry >= 0 && differs;
         }
     }
 
