@@ -2,7 +2,7 @@ import java.math.BigInteger;
 import java.util.regex.Matcher;
 import java.util.regex.Pattern;
 
-/** All shares of guests that come, and all short texts of the signs of rules, against plain formulas. */
+/** All shares of guests that come, and all short texts behind some beginnings, against plain formulas. */
 public final class SweepTest {
     private static final int MOST_GUESTS = 28;
     private static final int DIGITS = 40;
